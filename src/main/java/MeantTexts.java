@@ -12,6 +12,9 @@ public final class MeantTexts {
     private static final int NO_ROOM = -5;
     private static final int NOT_ANY = -6;
 
+    private static final int UNREAD = -5;
+    private static final int UNFIT = -6;
+
     private static final int OPEN = 0;
     private static final int CLOSE = 1;
     private static final int PLUS = 2;
@@ -112,10 +115,10 @@ public final class MeantTexts {
 
     public int fits() {
         if (Reading.faultOf(program) != NONE) {
-            return NO_ROOM;
+            return UNREAD;
         }
         int made = sense.understand(program, kinds);
-        return made == NONE ? NOT_ANY : made;
+        return made == NONE ? UNFIT : made;
     }
 
     public int value(int a, int b, int c, int d) {
@@ -147,7 +150,7 @@ public final class MeantTexts {
     }
 
     public int keeps() {
-        return understood(program, sense) ? tests.keptBy(sense) : NOT_ANY;
+        return understood(program, sense) ? tests.keptBy(sense) : UNFIT;
     }
 
     public int mend(int goal, int kind) {
@@ -195,7 +198,7 @@ public final class MeantTexts {
         latest.copyTo(k, scratch);
         bothFit = understood(scratch, otherSense) && bothFit;
         if (!bothFit) {
-            return NOT_ANY;
+            return UNFIT;
         }
         return sense.kindMade() == otherSense.kindMade() ? firstUnlikeInput() : 0;
     }
@@ -418,9 +421,11 @@ public final class MeantTexts {
         }
 
         static long after(long state, int token) {
-            if (state < 0 || !isToken(token) || (followers(state) >> token & 1) == 0) {
-                return STUCK;
-            }
+            return isToken(token) && (followers(state) >> token & 1) != 0 ? follow(state, token) : STUCK;
+        }
+
+        /** The state behind a token that is known to be among the followers. */
+        static long follow(long state, int token) {
             int due = (int) (state & MASK);
             boolean compared = due == ATOM_DUE_COMPARED || due == DONE_COMPARED;
             long open = state >> BITS;
@@ -934,25 +939,26 @@ public final class MeantTexts {
                 meant[i] = program.at(i);
             }
             budget = changes;
+            row.shorten(0);
         }
 
         void grow(int depth, long state) {
             if (depth < 0 || depth > ROW_ROOM || found.isOverfull()) {
                 return;
             }
-            row.shorten(depth);
             // Rows with fewer changes were all judged by an earlier search.
             if (distances[depth * WIDTH + length] == budget && Reading.isWhole(state)) {
                 offer();
             }
             int next = depth < ROW_ROOM ? Reading.followers(state) & affordable(depth) : 0;
             for (int token = 0; token < TOKENS && next != 0; token++) {
-                if ((next >> token & 1) != 0) {
+                if ((next & 1) != 0) {
                     row.shorten(depth);
                     row.add(token);
                     measure(depth + 1, token);
-                    grow(depth + 1, Reading.after(state, token));
+                    grow(depth + 1, Reading.follow(state, token));
                 }
+                next >>>= 1;
             }
         }
 
