@@ -376,6 +376,13 @@ public final class MeantTextsPromises {
         dueMending("not a", x, 1, NOT, A);
         dueMending("then the lower", x, 2, A, PLUS, A);
         dueMending("the last", x, 7, A, AND, A);
+        rewrite(x, CLOSE, CLOSE, A, LESS, B);
+        due("the first two are wrong", x.mend(1, -1) > 0 ? x.changes() : -1, 2);
+        dueMending("both taken out", x, 0, A, LESS, B);
+        dueMending("one taken out", x, 1, NOT, A, LESS, B);
+        rewrite(x, A, LESS, B, CLOSE, CLOSE);
+        due("the last two are wrong", x.mend(1, -1) > 0 ? x.changes() : -1, 2);
+        dueMending("both taken out", x, 0, A, LESS, B);
         rewrite(x, PLUS, PLUS, PLUS, PLUS, PLUS, PLUS);
         due("not by two", x.mend(0, -1), -6);
         due("none are the latest", x.count(2), 0);
@@ -393,7 +400,20 @@ public final class MeantTextsPromises {
         due("none are the latest", x.count(2), 0);
         due("changes() then", x.changes(), -1);
         due("status then", x.status(), -5);
-        due("a smaller number of them is kept again", of(OPEN).mend(0, -1), 16);
+        // Of twelve whole numbers: "x - y", "x + y", and each alone.
+        rewrite(x, MINUS, PLUS);
+        x.kind(0, 1);
+        x.kind(1, 1);
+        due("just 300", x.mend(1, 0), 300);
+        dueMending("the first of 300", x, 0, C);
+        dueMending("the last of 300", x, 299, number(9), MINUS, number(9));
+        due("behind 300", x.mending(300, -1), -1);
+        rewrite(x, NOT, ALIKE, PLUS);
+        x.kind(1, 0);
+        x.kind(2, 1);
+        x.kind(3, 1);
+        due("302", x.mend(1, 1), -5);
+        due("none are the latest", x.count(2), 0);
     }
 
     private static void passing() {
@@ -478,7 +498,7 @@ public final class MeantTextsPromises {
     private static void rank() {
         MeantTexts x = new MeantTexts();
         due("ahead of any", x.rank(0), -1);
-        learnTwoAndPlus(x);
+        learnTwo(x);
         x.clear();
         x.mend(1, 0);
         due("how many", x.count(2), 14);
@@ -491,9 +511,16 @@ public final class MeantTextsPromises {
         due("rank(-1)", x.rank(-1), -1);
         due("rank(low)", x.rank(LOW), -1);
         due("rank(high)", x.rank(HIGH), -1);
+        learnD(x);
+        x.clear();
+        x.mend(1, 0);
+        due("still two", x.rank(0), 2);
+        dueMending("then one gained once", x, 1, D);
+        due("one", x.rank(1), 1);
+        due("none", x.rank(2), 0);
         x.forget();
         due("as it was ordered", x.rank(0), 2);
-        learnTwoAndPlus(x);
+        learnTwo(x);
         rewrite(x, B, number(7));
         x.mend(1, 0);
         due("a number was lost twice, B never", x.rank(0), 2);
@@ -505,7 +532,7 @@ public final class MeantTextsPromises {
     }
 
     /** Number 2 is gained twice, number 7 lost twice. */
-    private static void learnTwoAndPlus(MeantTexts x) {
+    private static void learnTwo(MeantTexts x) {
         while (x.count(1) > 0) {
             x.drop(0);
         }
@@ -518,6 +545,15 @@ public final class MeantTextsPromises {
         while (x.count(1) > 0) {
             x.drop(0);
         }
+    }
+
+    /** D is gained once, C lost once. */
+    private static void learnD(MeantTexts x) {
+        rewrite(x, C);
+        x.test(5, 6, 7, 99, 99);
+        due("it is meant so", x.mend(2, 0), 1);
+        due("taken", x.take(0), 1);
+        x.drop(0);
     }
 
     private static void apart() {
@@ -538,6 +574,11 @@ public final class MeantTextsPromises {
             due("apart(0, " + i + ")", x.apart(0, i), -2);
             due("apart(" + i + ", 0)", x.apart(i, 0), -2);
         }
+        rewrite(x, A, PLUS, B, PLUS, C, PLUS, D, LESS);
+        due("a + b + c + d below each", x.mend(1, 1), 14);
+        due("below 8 and below 9: only where all are 2", x.apart(12, 13), 624);
+        due("below 7 and below 8", x.apart(11, 12), 499);
+        rewrite(x, A, PLUS);
         x.mend(0, 0);
         due("a + true doesn't fit", x.apart(0, 1), -6);
         due("nor on the other side", x.apart(1, 0), -6);
@@ -618,7 +659,7 @@ public final class MeantTextsPromises {
 
     private static void habit() {
         MeantTexts x = new MeantTexts();
-        learnTwoAndPlus(x);
+        learnTwo(x);
         due("gained", x.habit(number(2), 0), 2);
         due("lost", x.habit(number(2), 1), 0);
         due("gained 7", x.habit(number(7), 0), 0);
@@ -632,7 +673,7 @@ public final class MeantTextsPromises {
     private static void forget() {
         MeantTexts x = new MeantTexts();
         due("with none", x.forget(), 0);
-        learnTwoAndPlus(x);
+        learnTwo(x);
         due("with some", x.forget(), 0);
         for (int token = 0; token < 28; token++) {
             due("gained", x.habit(token, 0), 0);
@@ -674,6 +715,12 @@ public final class MeantTextsPromises {
         dueStatus(x, x.kind(4, 0), -1);
         dueStatus(x, x.test(0, 0, 0, 0, 0), 0);
         dueStatus(x, x.test(0, 0, 0, 500, 0), -1);
+        dueStatus(x, x.test(0, 0, 0, 0, 0), 1);
+        dueStatus(x, x.drop(2), -2);
+        dueStatus(x, x.drop(0), 1);
+        dueStatus(x, x.kind(0, 1), 0);
+        due("an answer of 1", x.kind(0, 0), 1);
+        due("is no refusal", x.status(), 0);
         dueStatus(x, x.drop(0), 0);
         dueStatus(x, x.drop(0), -2);
         dueStatus(x, x.mend(0, 0), 1);
