@@ -50,15 +50,12 @@ public final class MeantTexts {
 
     private final Row program = new Row();
     private final Row scratch = new Row();
-    private final int[] kinds = new int[VARIABLES];
     private final int[] inputs = new int[VARIABLES];
-    private final Tests tests = new Tests();
-    private final Habits habits = new Habits();
-    private final Mendings latest = new Mendings();
     private final Sense sense = new Sense();
     private final Sense otherSense = new Sense();
-    private final Judge judge = new Judge(kinds, tests);
-    private final Search search = new Search(judge, habits, latest);
+    private final Judge judge = new Judge();
+    private final Mendings latest = new Mendings();
+    private final Search search = new Search();
     private int refusal = 0;
 
     public MeantTexts() {
@@ -104,8 +101,8 @@ public final class MeantTexts {
         if (variable < 0 || variable >= VARIABLES || !isKind(kind)) {
             return refuse(NO_NUMBER);
         }
-        int was = kinds[variable];
-        kinds[variable] = kind;
+        int was = judge.kinds[variable];
+        judge.kinds[variable] = kind;
         return accept(was);
     }
 
@@ -117,7 +114,7 @@ public final class MeantTexts {
         if (Reading.faultOf(program) != NONE) {
             return UNREAD;
         }
-        int made = sense.understand(program, kinds);
+        int made = sense.understand(program, judge.kinds);
         return made == NONE ? UNFIT : made;
     }
 
@@ -133,24 +130,24 @@ public final class MeantTexts {
         if (!isInput(a) || !isInput(b) || !isInput(c) || !isInput(d) || isTooFar(wanted)) {
             return refuse(NO_NUMBER);
         }
-        if (tests.size() >= TEST_ROOM) {
+        if (judge.tests.size() >= TEST_ROOM) {
             return refuse(NO_ROOM);
         }
         setInputs(a, b, c, d);
-        tests.add(inputs, wanted);
-        return accept(tests.size() - 1);
+        judge.tests.add(inputs, wanted);
+        return accept(judge.tests.size() - 1);
     }
 
     public int drop(int test) {
-        if (test < 0 || test >= tests.size()) {
+        if (test < 0 || test >= judge.tests.size()) {
             return refuse(NO_SUCH);
         }
-        tests.removeAt(test);
-        return accept(tests.size());
+        judge.tests.removeAt(test);
+        return accept(judge.tests.size());
     }
 
     public int keeps() {
-        return understood(program, sense) ? tests.keptBy(sense) : UNFIT;
+        return understood(program, sense) ? judge.tests.keptBy(sense) : UNFIT;
     }
 
     public int mend(int goal, int kind) {
@@ -164,8 +161,7 @@ public final class MeantTexts {
         latest.begin(program);
         for (int changes = 0; changes <= MOST_CHANGES && latest.size() == 0; changes++) {
             latest.needChanges(changes);
-            search.prepare(program, changes);
-            search.grow(0, Reading.START);
+            search.find(program, changes, judge, latest);
         }
         if (latest.isOverfull()) {
             latest.forgetAll();
@@ -211,8 +207,7 @@ public final class MeantTexts {
             return refuse(NO_ROOM);
         }
         latest.copyTo(i, program);
-        latest.compare(program);
-        habits.grow(latest);
+        latest.learnFrom(program);
         latest.forgetAll();
         return accept(program.size());
     }
@@ -223,16 +218,16 @@ public final class MeantTexts {
         }
         switch (what) {
             case 0:
-                return habits.gainedOf(token);
+                return latest.habits.gainedOf(token);
             case 1:
-                return habits.lostOf(token);
+                return latest.habits.lostOf(token);
             default:
                 return NONE;
         }
     }
 
     public int forget() {
-        habits.forgetAll();
+        latest.habits.forgetAll();
         return 0;
     }
 
@@ -241,7 +236,7 @@ public final class MeantTexts {
             case 0:
                 return program.size();
             case 1:
-                return tests.size();
+                return judge.tests.size();
             case 2:
                 return latest.size();
             default:
@@ -264,7 +259,7 @@ public final class MeantTexts {
     }
 
     private boolean understood(Row row, Sense by) {
-        return Reading.faultOf(row) == NONE && by.understand(row, kinds) != NONE;
+        return Reading.faultOf(row) == NONE && by.understand(row, judge.kinds) != NONE;
     }
 
     private void setInputs(int a, int b, int c, int d) {
@@ -296,7 +291,7 @@ public final class MeantTexts {
         return input >= -FARTHEST_INPUT && input <= FARTHEST_INPUT;
     }
 
-    private static boolean isTooFar(int number) {
+    private static boolean isTooFar(long number) {
         return number > FARTHEST_VALUE || number < -FARTHEST_VALUE;
     }
 
@@ -467,6 +462,8 @@ public final class MeantTexts {
         // How tightly each token below "true" binds; what is only closed by a later token binds by 0.
         private static final int[] BINDING = {0, 0, 5, 5, 6, 4, 4, 2, 3, 0, 0, 1};
         private static final int LOOSEST = 1;
+        // How many operands each of them takes once it is a step: "else" stands for the whole choice.
+        private static final int[] OPERANDS = {0, 0, 2, 2, 2, 2, 2, 2, 1, 0, 0, 3};
         // A variable that is a truth has a step of its own, so that later work needs no kinds.
         private static final int FIRST_TRUTH_VARIABLE = TOKENS;
 
@@ -543,7 +540,7 @@ public final class MeantTexts {
         }
 
         private void addOperator(int token) {
-            int left = height - operandsOf(token);
+            int left = height - OPERANDS[token];
             if (left < 0 || stepCount >= ROW_ROOM) {
                 fitting = false;
                 return;
@@ -578,17 +575,6 @@ public final class MeantTexts {
             height = left + 1;
         }
 
-        private static int operandsOf(int operator) {
-            switch (operator) {
-                case NOT:
-                    return 1;
-                case ELSE:
-                    return 3;
-                default:
-                    return 2;
-            }
-        }
-
         /** The value for the four inputs that stand at a place in a row of numbers. */
         int work(int[] numbers, int from) {
             if (made == NONE || from < 0 || from > numbers.length - VARIABLES) {
@@ -597,15 +583,15 @@ public final class MeantTexts {
             height = 0;
             for (int i = 0; i < stepCount; i++) {
                 int step = steps[i];
-                int left = step >= TRUE ? height : height - operandsOf(step);
+                int left = step >= TRUE ? height : height - OPERANDS[step];
                 if (left < 0 || left >= ROW_ROOM) {
                     return NOTHING;
                 }
-                int part = step >= TRUE ? operand(step, numbers, from) : combine(step, left);
+                long part = step >= TRUE ? operand(step, numbers, from) : combine(step, left);
                 if (isTooFar(part)) {
                     return NOTHING;
                 }
-                stack[left] = part;
+                stack[left] = (int) part;
                 height = left + 1;
             }
             return height == 1 ? stack[0] : NOTHING;
@@ -624,7 +610,7 @@ public final class MeantTexts {
             return step == TRUE ? 1 : 0;
         }
 
-        private int combine(int step, int left) {
+        private long combine(int step, int left) {
             int first = stack[left];
             int last = stack[height - 1];
             switch (step) {
@@ -633,7 +619,7 @@ public final class MeantTexts {
                 case MINUS:
                     return first - last;
                 case TIMES:
-                    return product(first, last);
+                    return (long) first * last;
                 case LESS:
                     return first < last ? 1 : 0;
                 case ALIKE:
@@ -645,12 +631,6 @@ public final class MeantTexts {
                 default:
                     return first != 0 ? stack[height - 2] : last;
             }
-        }
-
-        private static int product(int first, int last) {
-            long exact = (long) first * last;
-            // The true product may not be an int; NOTHING is too far as well.
-            return exact > FARTHEST_VALUE || exact < -FARTHEST_VALUE ? NOTHING : (int) exact;
         }
     }
 
@@ -686,8 +666,8 @@ public final class MeantTexts {
 
         int keptBy(Sense sense) {
             int kept = 0;
-            for (int i = 0; i < size; i++) {
-                if (isKeptBy(sense, i)) {
+            for (int i = 0; i < size * WIDTH; i += WIDTH) {
+                if (sense.work(cells, i) == cells[i + VARIABLES]) {
                     kept++;
                 }
             }
@@ -695,16 +675,12 @@ public final class MeantTexts {
         }
 
         boolean areAllKeptBy(Sense sense) {
-            for (int i = 0; i < size; i++) {
-                if (!isKeptBy(sense, i)) {
+            for (int i = 0; i < size * WIDTH; i += WIDTH) {
+                if (sense.work(cells, i) != cells[i + VARIABLES]) {
                     return false;
                 }
             }
             return true;
-        }
-
-        private boolean isKeptBy(Sense sense, int i) {
-            return sense.work(cells, i * WIDTH) == cells[i * WIDTH + VARIABLES];
         }
     }
 
@@ -728,19 +704,18 @@ public final class MeantTexts {
             }
         }
 
-        void grow(Mendings compared) {
-            for (int token = 0; token < TOKENS; token++) {
-                int more = compared.moreOf(token);
-                gained[token] += Math.max(0, more);
-                lost[token] += Math.max(0, -more);
+        /** Grows by how many more there are of each token, or fewer. */
+        void grow(int[] more) {
+            for (int token = 0; token < TOKENS && token < more.length; token++) {
+                gained[token] += Math.max(0, more[token]);
+                lost[token] += Math.max(0, -more[token]);
             }
         }
 
-        int rankBy(Mendings compared) {
+        int rankOf(int[] more) {
             int sum = 0;
-            for (int token = 0; token < TOKENS; token++) {
-                int more = compared.moreOf(token);
-                sum += more > 0 ? more * gained[token] : -more * lost[token];
+            for (int token = 0; token < TOKENS && token < more.length; token++) {
+                sum += more[token] > 0 ? more[token] * gained[token] : -more[token] * lost[token];
             }
             return sum;
         }
@@ -755,6 +730,7 @@ public final class MeantTexts {
         private static final int BITS = 5;
         private static final int MASK = 31;
 
+        final Habits habits = new Habits();
         private final long[] rows = new long[MENDING_ROOM];
         private final int[] lengths = new int[MENDING_ROOM];
         private final int[] ranks = new int[MENDING_ROOM];
@@ -824,7 +800,7 @@ public final class MeantTexts {
             }
         }
 
-        void compare(Row row) {
+        private void compare(Row row) {
             for (int token = 0; token < TOKENS; token++) {
                 more[token] = -had[token];
             }
@@ -835,16 +811,18 @@ public final class MeantTexts {
             }
         }
 
-        /** How many more of a token the row that was compared last has than the program had. */
-        int moreOf(int token) {
-            return isToken(token) ? more[token] : 0;
+        void learnFrom(Row taken) {
+            compare(taken);
+            habits.grow(more);
         }
 
-        void add(Row row, int rank) {
+        void add(Row row) {
             if (size >= MENDING_ROOM) {
                 overfull = true;
                 return;
             }
+            compare(row);
+            int rank = habits.rankOf(more);
             long tokens = 0;
             for (int i = 0; i < row.size(); i++) {
                 tokens = tokens << BITS | row.at(i);
@@ -872,16 +850,11 @@ public final class MeantTexts {
 
     /** Says of a row that reads whether it does what is asked for. */
     private static final class Judge {
-        private final int[] kinds;
-        private final Tests tests;
+        final int[] kinds = new int[VARIABLES];
+        final Tests tests = new Tests();
         private final Sense sense = new Sense();
         private int goal = READS;
         private int kindWanted = NONE;
-
-        Judge(int[] kinds, Tests tests) {
-            this.kinds = kinds;
-            this.tests = tests;
-        }
 
         void ask(int goal, int kindWanted) {
             this.goal = goal;
@@ -910,20 +883,14 @@ public final class MeantTexts {
         private static final int FAR = 99;
         private static final int ANY_TOKEN = -1;
 
-        private final Judge judge;
-        private final Habits habits;
-        private final Mendings found;
         private final Row row = new Row();
-        private final int[] meant = new int[PROGRAM_ROOM];
+        private final int[] written = new int[PROGRAM_ROOM];
         // Changes from the first j tokens of the program to the first d of the row, at d * WIDTH + j.
         private final int[] distances = new int[(ROW_ROOM + 1) * WIDTH];
         private int length = 0;
         private int budget = 0;
 
-        Search(Judge judge, Habits habits, Mendings found) {
-            this.judge = judge;
-            this.habits = habits;
-            this.found = found;
+        Search() {
             // Lengths that differ by more than two are never filled in: they stay too far.
             for (int i = 0; i < distances.length; i++) {
                 distances[i] = FAR;
@@ -933,22 +900,25 @@ public final class MeantTexts {
             }
         }
 
-        void prepare(Row program, int changes) {
+        /** Adds to the found ones all rows so many changes away that the judge is content with. */
+        void find(Row program, int changes, Judge judge, Mendings found) {
             length = Math.min(program.size(), PROGRAM_ROOM);
             for (int i = 0; i < length; i++) {
-                meant[i] = program.at(i);
+                written[i] = program.at(i);
             }
             budget = changes;
             row.shorten(0);
+            grow(0, Reading.START, judge, found);
         }
 
-        void grow(int depth, long state) {
+        private void grow(int depth, long state, Judge judge, Mendings found) {
             if (depth < 0 || depth > ROW_ROOM || found.isOverfull()) {
                 return;
             }
             // Rows with fewer changes were all judged by an earlier search.
-            if (distances[depth * WIDTH + length] == budget && Reading.isWhole(state)) {
-                offer();
+            if (distances[depth * WIDTH + length] == budget && Reading.isWhole(state)
+                && judge.isContentWith(row)) {
+                found.add(row);
             }
             int next = depth < ROW_ROOM ? Reading.followers(state) & affordable(depth) : 0;
             for (int token = 0; token < TOKENS && next != 0; token++) {
@@ -956,16 +926,9 @@ public final class MeantTexts {
                     row.shorten(depth);
                     row.add(token);
                     measure(depth + 1, token);
-                    grow(depth + 1, Reading.follow(state, token));
+                    grow(depth + 1, Reading.follow(state, token), judge, found);
                 }
                 next >>>= 1;
-            }
-        }
-
-        private void offer() {
-            if (judge.isContentWith(row)) {
-                found.compare(row);
-                found.add(row, habits.rankBy(found));
             }
         }
 
@@ -980,7 +943,7 @@ public final class MeantTexts {
                     return ANY_TOKEN;
                 }
                 if (distance == budget && j < length) {
-                    due |= 1 << meant[j];
+                    due |= 1 << written[j];
                 }
             }
             return due;
@@ -994,7 +957,7 @@ public final class MeantTexts {
             for (int j = from; j <= to; j++) {
                 int best = distances[above + j] + 1;
                 if (j > 0) {
-                    int other = meant[j - 1] == token ? 0 : 1;
+                    int other = written[j - 1] == token ? 0 : 1;
                     best = Math.min(best, distances[above + j - 1] + other);
                     best = Math.min(best, distances[here + j - 1] + 1);
                 }
