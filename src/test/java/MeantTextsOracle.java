@@ -495,9 +495,9 @@ public final class MeantTextsOracle {
 
         void test(int... t) {
             int want;
-            boolean can = Math.abs(t[4]) <= 1000000;
+            boolean can = Math.abs((long) t[4]) <= 1000000;
             for (int i = 0; i < 4; i++) {
-                can = can && Math.abs(t[i]) <= 100;
+                can = can && Math.abs((long) t[i]) <= 100;
             }
             if (!can) {
                 want = p.say(-1);
@@ -729,6 +729,50 @@ public final class MeantTextsOracle {
         }
     }
 
+    private static final int[] EDGES = {
+        Integer.MIN_VALUE, Integer.MIN_VALUE + 1, -2000000, -1000001, -1000000, -65536, -101, -100, -2, -1, 0, 1, 2, 3, 4,
+        7, 8, 9, 10, 11, 12, 13, 14, 17, 18, 27, 28, 31, 32, 63, 64, 99, 100, 101, 299, 300, 301, 624, 625, 1000, 1001,
+        65536, 1000000, 1000001, Integer.MAX_VALUE - 1, Integer.MAX_VALUE,
+    };
+
+    private static int edge() {
+        return EDGES[below(EDGES.length)];
+    }
+
+    /** Every kind of call in every kind of state, with numbers from all edges. */
+    private static void wildRun() {
+        Pair pair = new Pair();
+        while (pair.used < 490) {
+            switch (below(16)) {
+                case 0 -> {
+                    pair.clear();
+                    for (int token : someProgram(4, below(3))) {
+                        pair.put(token);
+                    }
+                }
+                case 1 -> pair.put(edge());
+                case 2 -> pair.set(edge(), edge());
+                case 3 -> pair.kind(edge(), edge());
+                case 4 -> pair.test(edge(), edge(), edge(), edge(), edge());
+                case 5 -> pair.test(below(201) - 100, below(201) - 100, below(201) - 100, below(201) - 100, edge());
+                case 6 -> pair.drop(edge());
+                case 7, 8 -> pair.value(edge(), edge(), edge(), edge());
+                case 9 -> pair.mend(edge(), edge());
+                case 10 -> {
+                    if (pair.p.program.size() <= 4) {
+                        pair.mend(below(3), below(3) - 1);
+                    }
+                }
+                case 11 -> pair.take(edge());
+                case 12 -> pair.habit(edge(), edge());
+                case 13 -> pair.apart(edge(), edge());
+                case 14 -> pair.rank(edge());
+                default -> pair.mending(edge(), edge());
+            }
+            pair.look();
+        }
+    }
+
     /** A learner: spoilt programs, mended and taken one after another, so that habits order what comes. */
     private static void learnerRun(int longest, int edits) {
         Pair pair = new Pair();
@@ -814,6 +858,9 @@ public final class MeantTextsOracle {
         shortRows();
         for (int i = 0; i < 150; i++) {
             mixedRun(4);
+        }
+        for (int i = 0; i < 100; i++) {
+            wildRun();
         }
         for (int i = 0; i < 60; i++) {
             mixedRun(3);
