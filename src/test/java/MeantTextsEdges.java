@@ -241,7 +241,8 @@ public final class MeantTextsEdges {
         edge("how many of ten", TEN_OPEN + "token -1 = 10");
         edge("the first and the last of three", "program a + b; token 0 = 14; token 2 = 15");
         edge("just behind three", "program a + b; token 3 = NONE");
-        edge("the last of ten, and just behind", "program a + a + a + a + a +; token 9 = 2; token 10 = NONE; token 11 = NONE; token 12 = NONE");
+        edge("the last of ten, and just behind", "program a + a + a + a + a +; token 9 = 2; token 10 = NONE; token 11 = NONE; "
+            + "token 12 = NONE");
         edge("below -1", "program a + b; token -2 = NONE");
         for (String far : FAR) {
             edge("far off, " + far, "program a + b; token " + far + " = NONE");
@@ -518,7 +519,8 @@ public final class MeantTextsEdges {
         valueOf("if d then 7 else 8", "0 0 0 MIN", "7");
         valueOf("if d then 7 else 8", "0 0 0 0", "8");
         edge("two truths by other numbers are alike", "kind 0 1; kind 1 1; program a = b; value 5 -3 0 0 = 1; value 5 0 0 0 = 0");
-        edge("and of truths by even numbers", "kind 0 1; kind 1 1; program a and b; value 2 4 0 0 = 1; value 1 2 0 0 = 1; value 2 0 0 0 = 0");
+        edge("and of truths by even numbers", "kind 0 1; kind 1 1; program a and b; value 2 4 0 0 = 1; value 1 2 0 0 = 1; "
+            + "value 2 0 0 0 = 0");
     }
 
     private static void farthest() {
@@ -667,7 +669,8 @@ public final class MeantTextsEdges {
         edge("all inputs at their edges at once", "test 100 -100 100 -100 5 = 0; program a + b + c + d + 5; keeps = 1");
         edge("the same TEST twice", "test 1 0 0 0 1 = 0; test 1 0 0 0 1 = 1; program a; keeps = 2");
         edge("a number again where one was dropped", "test 1 0 0 0 1 = 0; test 2 0 0 0 2 = 1; drop 0 = 1; test 3 0 0 0 3 = 1");
-        edge("room again where one of eight was dropped", EIGHT_TESTS + "drop 3 = 7; test 9 0 0 0 9 = 7; test 9 0 0 0 9 = -5; program 9; keeps = 1");
+        edge("room again where one of eight was dropped", EIGHT_TESTS + "drop 3 = 7; test 9 0 0 0 9 = 7; test 9 0 0 0 9 = -5; "
+            + "program 9; keeps = 1");
     }
 
     private static String testWith(int place, String input, String wanted, String due) {
@@ -704,7 +707,8 @@ public final class MeantTextsEdges {
         edge("later ones are one lower", EIGHT_TESTS + "drop 2 = 7; drop 2 = 6; drop 2 = 5; " + left(0, 1, 5, 6, 7));
         edge("earlier ones keep their numbers", EIGHT_TESTS + "drop 5 = 7; drop 1 = 6; drop 0 = 5; " + left(2, 3, 4, 6, 7));
         edge("a new one is the last", EIGHT_TESTS + "drop 0; test 0 0 0 0 0 = 7; drop 0 = 7; drop 6 = 6; " + left(2, 3, 4, 5, 6, 7));
-        edge("all of eight", EIGHT_TESTS + "drop 0 = 7; drop 0 = 6; drop 0 = 5; drop 0 = 4; drop 0 = 3; drop 0 = 2; drop 0 = 1; drop 0 = 0; drop 0 = -2");
+        edge("all of eight", EIGHT_TESTS + "drop 0 = 7; drop 0 = 6; drop 0 = 5; drop 0 = 4; drop 0 = 3; drop 0 = 2; "
+            + "drop 0 = 1; drop 0 = 0; drop 0 = -2");
         edge("all five numbers of later ones come along",
             "test 0 0 0 0 9; test 1 2 3 4 5; drop 0; program a + 4; keeps = 1; program b + 3; keeps = 1; "
             + "program c + 2; keeps = 1; program d + 1; keeps = 1; program 5; keeps = 1");
@@ -723,12 +727,15 @@ public final class MeantTextsEdges {
         edge("one that READS and doesn't FIT", "program a + true; keeps = -6; test 0 0 0 0 0; keeps = -6");
         edge("no VALUE isn't kept", "test 100 0 0 0 0; test 1 0 0 0 1; program a * a * a * a; keeps = 1");
         edge("a VALUE just within is kept", "test 100 0 0 0 1000000; test -100 0 0 0 -1000000; program a * a * a; keeps = 2");
-        edge("a truth is 0 or 1", "test 0 0 0 0 1; test 0 0 0 0 0; test 0 0 0 0 2; test 0 0 0 0 -1; program true; keeps = 1; program false; keeps = 1");
+        edge("a truth is 0 or 1", "test 0 0 0 0 1; test 0 0 0 0 0; test 0 0 0 0 2; test 0 0 0 0 -1; program true; keeps = 1; "
+            + "program false; keeps = 1");
         for (String input : "1 2 -1 100 -100".split(" ")) {
-            edge("an input of a truth, " + input, "kind 1 1; test 0 " + input + " 0 0 1; test 0 " + input + " 0 0 0; program b; keeps = 1; program not b; keeps = 1; drop 1; program b; keeps = 1");
+            edge("an input of a truth, " + input, "kind 1 1; test 0 " + input + " 0 0 1; test 0 " + input + " 0 0 0; "
+                + "program b; keeps = 1; program not b; keeps = 1; drop 1; program b; keeps = 1");
         }
         edge("an input of a truth, 0", "kind 1 1; test 0 0 0 0 0; program b; keeps = 1; program not b; keeps = 0");
-        edge("a KIND that changes behind the TEST", "test 0 5 0 0 5; test 0 5 0 0 1; program b; keeps = 1; kind 1 1; keeps = 1; drop 0; keeps = 1; kind 1 0; keeps = 0");
+        edge("a KIND that changes behind the TEST", "test 0 5 0 0 5; test 0 5 0 0 1; program b; keeps = 1; kind 1 1; "
+            + "keeps = 1; drop 0; keeps = 1; kind 1 0; keeps = 0");
     }
 
     // ---- promise 13 ----
@@ -761,7 +768,8 @@ public final class MeantTextsEdges {
         edge("the highest GOAL", "program a +; mend 2 -1 = 15; status = 0");
         for (String goal : "-1 3 MIN MAX".split(" ")) {
             edge("GOAL " + goal, "program a; mend " + goal + " 0 = -1; status = -1; count 2 = 0");
-            edge("GOAL " + goal + " leaves the latest", "program a +; mend 0 0 = 17; mend " + goal + " 0 = -1; count 2 = 17; changes = 1; mending 0 is a");
+            edge("GOAL " + goal + " leaves the latest", "program a +; mend 0 0 = 17; mend " + goal + " 0 = -1; count 2 = 17; "
+                + "changes = 1; mending 0 is a");
         }
         edge("a wrong GOAL ahead of too many", TOO_MANY + "mend 3 0 = -1; status = -1");
         edge("a wrong GOAL ahead of none", NOT_BY_TWO + "mend 3 0 = -1; mend -1 0 = -1; status = -1");
@@ -794,30 +802,40 @@ public final class MeantTextsEdges {
     private static void oneChange() {
         edge("out of an empty PROGRAM", "mend 0 -1 = 16; changes = 1; mending 0 is true; mending 15 is 9; mending 16 -1 = NONE");
         edge("put in ahead, taken out behind", "program a ); mend 0 -1 = 2; changes = 1; mending 0 is a; mending 1 is ( a )");
-        edge("put in behind, taken out ahead", "program ( a; mend 0 -1 = 3; changes = 1; mending 0 is a; mending 1 is not a; mending 2 is ( a )");
-        edge("put in and taken out between", "program a + + b; mend 0 -1 = 17; changes = 1; mending 0 is a + b; mending 1 is a + true + b; mending 16 is a + 9 + b");
+        edge("put in behind, taken out ahead", "program ( a; mend 0 -1 = 3; changes = 1; mending 0 is a; mending 1 is not a; "
+            + "mending 2 is ( a )");
+        edge("put in and taken out between", "program a + + b; mend 0 -1 = 17; changes = 1; mending 0 is a + b; "
+            + "mending 1 is a + true + b; mending 16 is a + 9 + b");
         edge("another one ahead", "program ) a ); mend 0 -1 = 1; changes = 1; mending 0 is ( a )");
         edge("another one behind", "program ( a (; mend 0 -1 = 1; changes = 1; mending 0 is ( a )");
         edge("another one between", "program ( ) ); mend 0 -1 = 16; changes = 1; mending 0 is ( true ); mending 15 is ( 9 )");
         edge("none twice", "program a a; mend 0 -1 = 8; mending 0 is a; mending 1 is not a; mending 2 is a + a; mending 7 is a and a");
-        edge("eleven out of ten", "program ( ( a + b + c + d ); mend 0 -1 = 7; changes = 1; mending 6 is ( ( a + b + c + d ) ); mending 2 is not ( a + b + c + d ); mending 0 -1 = 9");
-        edge("nine out of ten", "program ( ( ( ( a ) ) ) ) ); mend 0 -1 = 2; changes = 1; mending 0 is ( ( ( ( a ) ) ) ); mending 1 is ( ( ( ( ( a ) ) ) ) )");
-        edge("the last of ten is another one", "program ( ( not a + b + c ) (; mend 0 -1 = 1; changes = 1; mending 0 is ( ( not a + b + c ) )");
+        edge("eleven out of ten", "program ( ( a + b + c + d ); mend 0 -1 = 7; changes = 1; "
+            + "mending 6 is ( ( a + b + c + d ) ); mending 2 is not ( a + b + c + d ); mending 0 -1 = 9");
+        edge("nine out of ten", "program ( ( ( ( a ) ) ) ) ); mend 0 -1 = 2; changes = 1; mending 0 is ( ( ( ( a ) ) ) ); "
+            + "mending 1 is ( ( ( ( ( a ) ) ) ) )");
+        edge("the last of ten is another one", "program ( ( not a + b + c ) (; mend 0 -1 = 1; changes = 1; "
+            + "mending 0 is ( ( not a + b + c ) )");
     }
 
     private static void twoChanges() {
-        edge("two taken out ahead", "program ) ) a < b; mend 1 -1; changes = 2; mending 0 is a < b; mending 1 is not a < b; mending 2 is not not a < b");
+        edge("two taken out ahead", "program ) ) a < b; mend 1 -1; changes = 2; mending 0 is a < b; mending 1 is not a < b; "
+            + "mending 2 is not not a < b");
         edge("two taken out behind", "program a < b ) ); mend 1 -1; changes = 2; mending 0 is a < b");
-        edge("two put in behind: twelve out of ten", "program ( ( not a + b + c + d; mend 0 -1 = 44; changes = 2; mending 43 is ( ( not a + b + c + d ) ); mending 43 12 = NONE");
-        edge("two put in ahead: twelve out of ten", "program a ) and not b ) and c + d; mend 0 -1 = 30; changes = 2; mending 0 is a and not b and c + d; "
+        edge("two put in behind: twelve out of ten", "program ( ( not a + b + c + d; mend 0 -1 = 44; changes = 2; "
+            + "mending 43 is ( ( not a + b + c + d ) ); mending 43 12 = NONE");
+        edge("two put in ahead: twelve out of ten", "program a ) and not b ) and c + d; mend 0 -1 = 30; changes = 2; "
+            + "mending 0 is a and not b and c + d; "
             + "mending 27 is ( ( a ) and not b ) and c + d; mending 29 is ( a ) and not ( b ) and c + d; mending 26 -1 = 11");
         edge("others in two places", "program ) a (; mend 0 -1 = 3; changes = 2; mending 0 is a; mending 1 is not a; mending 2 is ( a )");
-        edge("the first and the last of ten", "program ) ( not a + b + c ) (; mend 0 -1 = 3; changes = 2; mending 0 is ( not a + b + c ); mending 2 is ( ( not a + b + c ) )");
+        edge("the first and the last of ten", "program ) ( not a + b + c ) (; mend 0 -1 = 3; changes = 2; "
+            + "mending 0 is ( not a + b + c ); mending 2 is ( ( not a + b + c ) )");
         edge("not by two", NOT_BY_TWO + "mend 0 -1 = -6; status = -6");
         edge("not by two, ten long", "program ) ) ) ) ) ) ) ) ) ); mend 0 -1 = -6; mend 1 0 = -6; mend 2 1 = -6; status = -6");
         edge("three brackets short", "program ( ( ( a + b + c + d; mend 0 -1 = -6");
         edge("not by two, none are the latest", "program a +; mend 0 -1 = 17; " + NOT_BY_TWO + "mend 0 -1 = -6; " + NO_LATEST);
-        edge("not by two, though it READS", "program a + b + c + d; mend 0 -1 = 1; mend 1 0 = 1; test 0 0 0 0 50; mend 2 -1 = -6; count 2 = 0");
+        edge("not by two, though it READS", "program a + b + c + d; mend 0 -1 = 1; mend 1 0 = 1; test 0 0 0 0 50; "
+            + "mend 2 -1 = -6; count 2 = 0");
     }
 
     private static void howMany() {
@@ -826,7 +844,8 @@ public final class MeantTextsEdges {
         edge("301", JUST_301 + "mend 2 -1 = -5; status = -5; " + NO_LATEST);
         edge("many more", TOO_MANY + "mend 0 -1 = -5; status = -5; " + NO_LATEST);
         edge("too many, where others were the latest", "program a +; mend 0 -1 = 17; " + TOO_MANY + "mend 0 -1 = -5; " + NO_LATEST);
-        edge("too many, then just 300 again", TOO_MANY + "mend 0 -1 = -5; " + JUST_300 + "mend 1 0 = 300; mend 1 0 = 300; mending 299 is 9 - 9");
+        edge("too many, then just 300 again", TOO_MANY + "mend 0 -1 = -5; " + JUST_300 + "mend 1 0 = 300; mend 1 0 = 300; "
+            + "mending 299 is 9 - 9");
         edge("too many, then none", TOO_MANY + "mend 0 -1 = -5; " + NOT_BY_TWO + "mend 0 -1 = -6; " + NO_LATEST);
         edge("none, then one", NOT_BY_TWO + "mend 0 -1 = -6; program a; mend 0 -1 = 1; changes = 0; status = 0");
         edge("300, then one", JUST_300 + "mend 1 0 = 300; program c; mend 1 0 = 1; changes = 0; mending 0 is c; mending 1 -1 = NONE");
@@ -836,10 +855,12 @@ public final class MeantTextsEdges {
         edge("a whole number out of nothing", "mend 1 0 = 14; changes = 1; mending 0 is a; mending 13 is 9");
         edge("a truth out of nothing", "mend 1 1 = 2; changes = 1; mending 0 is true; mending 1 is false");
         edge("either out of nothing", "mend 1 -1 = 16; mending 0 is true; mending 15 is 9");
-        edge("a truth, where all VARIABLES are", "kind 0 1; kind 1 1; kind 2 1; kind 3 1; mend 1 1 = 6; mending 5 is d; mend 1 0 = 10; mending 0 is 0");
+        edge("a truth, where all VARIABLES are", "kind 0 1; kind 1 1; kind 2 1; kind 3 1; mend 1 1 = 6; mending 5 is d; "
+            + "mend 1 0 = 10; mending 0 is 0");
         edge("the other KIND than it has", "program a; mend 1 1 = 2; changes = 1; mending 0 is true; mending 1 is false");
         edge("the other KIND than it has, of a truth", "program true; mend 1 0 = 14; changes = 1; mending 0 is a");
-        edge("if asks for a truth", "program if a then b else c; mend 1 0 = 2; changes = 1; mending 0 is if true then b else c; mending 1 is if false then b else c");
+        edge("if asks for a truth", "program if a then b else c; mend 1 0 = 2; changes = 1; "
+            + "mending 0 is if true then b else c; mending 1 is if false then b else c");
     }
 
     private static void passing() {
@@ -853,8 +874,10 @@ public final class MeantTextsEdges {
         edge("a truth alone", "test 0 0 0 0 1; program 2; mend 2 1 = 1; mending 0 is true");
         edge("it PASSES, of the other KIND", "test 0 0 0 0 1; program 1; mend 2 1 = 1; changes = 1; mending 0 is true");
         edge("by one CHANGE", "test 3 4 0 0 7; test 5 1 0 0 6; program a - b; mend 2 -1 = 1; changes = 1; mending 0 is a + b");
-        edge("by two CHANGES", "test 3 4 0 0 7; test 5 1 0 0 6; program a; mend 2 -1 = 2; changes = 2; mending 0 is a + b; mending 1 is b + a");
-        edge("one that has no VALUE doesn't PASS", "test 100 0 0 0 0; program a * a * a * a; mend 1 0 = 1; mend 2 0; changes = 1; mending 0 is a * a - a * a");
+        edge("by two CHANGES", "test 3 4 0 0 7; test 5 1 0 0 6; program a; mend 2 -1 = 2; changes = 2; mending 0 is a + b; "
+            + "mending 1 is b + a");
+        edge("one that has no VALUE doesn't PASS", "test 100 0 0 0 0; program a * a * a * a; mend 1 0 = 1; mend 2 0; "
+            + "changes = 1; mending 0 is a * a - a * a");
         edge("a truth that isn't wanted as 0 or 1", "test 0 0 0 0 2; program true; mend 2 1 = -6; status = -6");
     }
 
@@ -872,13 +895,16 @@ public final class MeantTextsEdges {
     private static void order() {
         edge("of alike RANK the shorter", "program a +; mend 0 -1; mending 0 is a; mending 1 is a + true");
         edge("of alike length the lower, in the first place", "mend 1 -1; mending 0 is true; mending 1 is false; mending 2 is a");
-        edge("of alike length the lower, in the last place", "program a +; mend 0 -1; mending 2 is a + false; mending 3 is a + a; mending 16 is a + 9");
-        edge("an earlier place counts more", "program a +; mend 1 1; mending 0 is true; mending 2 is not true; mending 4 is a < a; mending 17 is a < 9; mending 18 is a = a");
+        edge("of alike length the lower, in the last place", "program a +; mend 0 -1; mending 2 is a + false; "
+            + "mending 3 is a + a; mending 16 is a + 9");
+        edge("an earlier place counts more", "program a +; mend 1 1; mending 0 is true; mending 2 is not true; "
+            + "mending 4 is a < a; mending 17 is a < 9; mending 18 is a = a");
         edge("the greater RANK, though it is longer",
             "program a b; mend 1 0; mending 2 is a + b; take 2 = 3; program c d; mend 1 0 = 5; "
             + "mending 0 is c + d; rank 0 = 1; mending 1 is c; rank 1 = 0; mending 2 is d; mending 3 is c - d; mending 4 is c * d");
         edge("the greater RANK, though it is higher",
-            "mend 1 0; mending 13 is 9; take 13 = 1; clear; mend 1 0 = 14; mending 0 is 9; rank 0 = 1; mending 1 is a; mending 13 is 8; rank 13 = 0");
+            "mend 1 0; mending 13 is 9; take 13 = 1; clear; mend 1 0 = 14; mending 0 is 9; rank 0 = 1; mending 1 is a; "
+                + "mending 13 is 8; rank 13 = 0");
     }
 
     // ---- promise 14 to 16 ----
@@ -900,7 +926,8 @@ public final class MeantTextsEdges {
     private static void mending() {
         String two = "program a ); mend 0 -1 = 2; ";
         edge("without any", "mending 0 -1 = NONE; mending 0 0 = NONE; mending -1 -1 = NONE");
-        edge("the first and the last", two + "mending 0 -1 = 1; mending 0 0 = 14; mending 1 -1 = 3; mending 1 0 = 0; mending 1 1 = 14; mending 1 2 = 1");
+        edge("the first and the last", two + "mending 0 -1 = 1; mending 0 0 = 14; mending 1 -1 = 3; mending 1 0 = 0; "
+            + "mending 1 1 = 14; mending 1 2 = 1");
         edge("behind the last MENDING", two + "mending 2 -1 = NONE; mending 2 0 = NONE");
         edge("below the first MENDING", two + "mending -1 -1 = NONE; mending -1 0 = NONE; mending -2 0 = NONE");
         edge("behind the last TOKEN", two + "mending 0 1 = NONE; mending 1 3 = NONE");
@@ -912,9 +939,11 @@ public final class MeantTextsEdges {
         for (int k = 3; k < 70; k++) {
             edge("TOKEN " + k + " of three", two + "mending 1 " + k + " = NONE");
         }
-        edge("the last TOKEN of twelve", "program ( ( not a + b + c + d; mend 0 -1 = 44; mending 43 -1 = 12; mending 43 11 = 1; mending 43 0 = 0; mending 43 12 = NONE; mending 43 13 = NONE");
+        edge("the last TOKEN of twelve", "program ( ( not a + b + c + d; mend 0 -1 = 44; mending 43 -1 = 12; "
+            + "mending 43 11 = 1; mending 43 0 = 0; mending 43 12 = NONE; mending 43 13 = NONE");
         edge("the last of 300", JUST_300 + "mend 1 0; mending 299 -1 = 3; mending 299 0 = 27; mending 300 -1 = NONE; mending 300 0 = NONE");
-        edge("each TOKEN at its own place", "kind 0 1; program if a then 9 else ( 0 ) + b; mend 0 0 = 1; mending 0 is if a then 9 else ( 0 ) + b");
+        edge("each TOKEN at its own place", "kind 0 1; program if a then 9 else ( 0 ) + b; mend 0 0 = 1; "
+            + "mending 0 is if a then 9 else ( 0 ) + b");
         edge("behind a taken one", two + "take 0; mending 0 -1 = NONE; mending 0 0 = NONE");
         edge("no REFUSAL", two + "mending 9 9 = NONE; status = 0");
     }
@@ -934,20 +963,29 @@ public final class MeantTextsEdges {
         }
         edge("the last of 300", JUST_300 + "mend 1 0; rank 299 = 0; rank 300 = NONE");
         edge("one more of what was gained once", GAINED_A + "clear; mend 1 0; mending 0 is a; rank 0 = 1; rank 1 = 0");
-        edge("one more of what was gained twice", GAINED_A + "clear; " + GAINED_A + "clear; mend 1 0; mending 0 is a; rank 0 = 2; rank 1 = 0");
+        edge("one more of what was gained twice", GAINED_A + "clear; " + GAINED_A + "clear; mend 1 0; mending 0 is a; "
+            + "rank 0 = 2; rank 1 = 0");
         edge("two more of what was gained once", GAINED_A + "test 7 0 0 0 14; program +; mend 2 0 = 8; changes = 2; "
-            + "mending 0 is a + a; rank 0 = 2; mending 1 is a + 7; rank 1 = 1; mending 2 is 7 + a; rank 2 = 1; mending 3 is 5 + 9; rank 3 = 0");
+            + "mending 0 is a + a; rank 0 = 2; mending 1 is a + 7; rank 1 = 1; mending 2 is 7 + a; rank 2 = 1; "
+            + "mending 3 is 5 + 9; rank 3 = 0");
         edge("as many of what was gained", GAINED_A + "program a a; mend 1 0 = 4; mending 0 is a; rank 0 = 0; rank 1 = 0");
-        edge("fewer of what was gained, never lost", GAINED_A + "program a c; mend 1 0 = 5; mending 0 is a; rank 0 = 0; mending 1 is c; rank 1 = 0");
-        edge("one fewer of what was lost once", LOST_B + "program b c; mend 1 0 = 5; mending 0 is c; rank 0 = 1; mending 1 is b; rank 1 = 0; rank 4 = 0");
+        edge("fewer of what was gained, never lost", GAINED_A + "program a c; mend 1 0 = 5; mending 0 is a; rank 0 = 0; "
+            + "mending 1 is c; rank 1 = 0");
+        edge("one fewer of what was lost once", LOST_B + "program b c; mend 1 0 = 5; mending 0 is c; rank 0 = 1; "
+            + "mending 1 is b; rank 1 = 0; rank 4 = 0");
         edge("two fewer of what was lost once", LOST_B + "test 0 2 50 0 50; program b b c; mend 2 0 = 6; changes = 2; "
-            + "mending 0 is c; rank 0 = 2; mending 1 is a + c; rank 1 = 2; mending 4 is 1 * c; rank 4 = 2; mending 5 is b - b + c; rank 5 = 0");
-        edge("more of what was lost, never gained", LOST_B + "clear; mend 1 0 = 14; mending 0 is a; rank 0 = 0; mending 1 is b; rank 1 = 0");
-        edge("the sum of both", GAINED_A + LOST_B + "program b; test 5 6 0 0 5; mend 2 0 = 2; mending 0 is a; rank 0 = 2; mending 1 is 5; rank 1 = 1");
+            + "mending 0 is c; rank 0 = 2; mending 1 is a + c; rank 1 = 2; mending 4 is 1 * c; rank 4 = 2; "
+            + "mending 5 is b - b + c; rank 5 = 0");
+        edge("more of what was lost, never gained", LOST_B + "clear; mend 1 0 = 14; mending 0 is a; rank 0 = 0; "
+            + "mending 1 is b; rank 1 = 0");
+        edge("the sum of both", GAINED_A + LOST_B + "program b; test 5 6 0 0 5; mend 2 0 = 2; mending 0 is a; rank 0 = 2; "
+            + "mending 1 is 5; rank 1 = 1");
         edge("the lowest and the highest TOKEN", "program a ); mend 0 -1; take 1 = 3; program 9 a; mend 1 0; mending 0 is a; "
-            + "take 0; habit 27 1 = 1; habit 0 0 = 1; program a 9; mend 1 0; mending 0 is a; rank 0 = 1; program a ); mend 0 0; mending 0 is ( a ); rank 0 = 1");
+            + "take 0; habit 27 1 = 1; habit 0 0 = 1; program a 9; mend 1 0; mending 0 is a; rank 0 = 1; program a ); "
+            + "mend 0 0; mending 0 is ( a ); rank 0 = 1");
         edge("without a CHANGE", GAINED_A + LOST_B + "program a; mend 1 0 = 1; rank 0 = 0");
-        edge("as it was ordered, though HABITS are forgotten", GAINED_A + "clear; mend 1 0; rank 0 = 1; forget; rank 0 = 1; mending 0 is a; mend 1 0; rank 0 = 0");
+        edge("as it was ordered, though HABITS are forgotten", GAINED_A + "clear; mend 1 0; rank 0 = 1; forget; rank 0 = 1; "
+            + "mending 0 is a; mend 1 0; rank 0 = 0");
         edge("as it was ordered, though the PROGRAM changes", GAINED_A + "clear; mend 1 0; program a a a; rank 0 = 1; rank 1 = 0");
         edge("behind a taken one", GAINED_A + "rank 0 = NONE");
         edge("no REFUSAL", "rank 9 = NONE; status = 0");
@@ -984,7 +1022,8 @@ public final class MeantTextsEdges {
         edge("unlike KINDS of alike VALUES", "mend 1 -1; mending 0 is true; mending 7 is 1; apart 0 7 = 0; apart 7 0 = 0");
         apartByEach();
         edge("behind a taken one", fifteen + "take 0; apart 0 0 = -2");
-        edge("KINDS as they are now", "mend 1 0; mending 0 is a; mending 1 is b; apart 0 1 = 25; kind 0 1; apart 0 1 = 0; kind 1 1; apart 0 1 = 50");
+        edge("KINDS as they are now", "mend 1 0; mending 0 is a; mending 1 is b; apart 0 1 = 25; kind 0 1; apart 0 1 = 0; "
+            + "kind 1 1; apart 0 1 = 50");
         edge("it doesn't FIT any more", fifteen + "apart 0 1 = 0; kind 0 1; apart 0 1 = -6; apart 0 0 = NONE");
     }
 
@@ -1010,31 +1049,40 @@ public final class MeantTextsEdges {
         edge("the first", two + "take 0 = 1; status = 0; holds a; habit 1 1 = 1; habit 1 0 = 0; habit 14 0 = 0; habit 14 1 = 0");
         edge("the last", two + "take 1 = 3; status = 0; holds ( a ); habit 0 0 = 1; habit 1 1 = 0; habit 1 0 = 0");
         for (String i : "2 -1 -2 MIN MAX".split(" ")) {
-            edge("no such one, " + i, two + "take " + i + " = -2; status = -2; holds a ); count 2 = 2; changes = 1; habit 1 1 = 0; habit 0 0 = 0");
+            edge("no such one, " + i, two + "take " + i + " = -2; status = -2; holds a ); count 2 = 2; changes = 1; "
+                + "habit 1 1 = 0; habit 0 0 = 0");
         }
-        edge("the last of 300", JUST_300 + "mend 1 0; take 300 = -2; take 299 = 3; holds 9 - 9; habit 27 0 = 2; habit 2 1 = 1; habit 3 1 = 0; habit 3 0 = 0");
+        edge("the last of 300", JUST_300 + "mend 1 0; take 300 = -2; take 299 = 3; holds 9 - 9; habit 27 0 = 2; "
+            + "habit 2 1 = 1; habit 3 1 = 0; habit 3 0 = 0");
         edge("the latest are none then", two + "take 0; " + NO_LATEST);
         edge("TESTS and KINDS stay", "kind 1 1; test 1 1 0 0 1; program b b; mend 0 -1; take 0 = 1; count 1 = 1; keeps = 1; fits = 1");
         edge("of nine TOKENS", "program ( ( a + b + c + d ); mend 0 -1; take 0 = 9; holds ( a + b + c + d ); habit 0 1 = 1");
-        edge("of ten TOKENS", "program ( ( a + b + c + d ); mend 0 -1; mending 2 -1 = 10; take 2 = 10; holds not ( a + b + c + d ); put 14 = -5");
-        edge("of ten TOKENS, without a CHANGE", "program not a + a + a + a < a; mend 0 -1; clear; take 0 = 10; holds not a + a + a + a < a");
+        edge("of ten TOKENS", "program ( ( a + b + c + d ); mend 0 -1; mending 2 -1 = 10; take 2 = 10; "
+            + "holds not ( a + b + c + d ); put 14 = -5");
+        edge("of ten TOKENS, without a CHANGE", "program not a + a + a + a < a; mend 0 -1; clear; take 0 = 10; "
+            + "holds not a + a + a + a < a");
         edge("of eleven TOKENS", "program ( ( a + b + c + d ); mend 0 -1; take 6 = -5; status = -5; holds ( ( a + b + c + d ); "
             + "count 2 = 7; changes = 1; habit 1 0 = 0; mending 6 is ( ( a + b + c + d ) ); take 0 = 9");
         edge("of twelve TOKENS", "program ( ( not a + b + c + d; mend 0 -1; take 43 = -5; status = -5; holds ( ( not a + b + c + d; "
             + "count 2 = 44; changes = 2; habit 1 0 = 0");
-        edge("of eleven TOKENS, though the PROGRAM is empty now", "program ( ( a + b + c + d ); mend 0 -1; clear; take 6 = -5; count 0 = 0");
-        edge("without a CHANGE: no HABITS", "program a + b; mend 1 0; take 0 = 3; habit 14 0 = 0; habit 14 1 = 0; habit 2 0 = 0; count 2 = 0");
+        edge("of eleven TOKENS, though the PROGRAM is empty now", "program ( ( a + b + c + d ); mend 0 -1; clear; "
+            + "take 6 = -5; count 0 = 0");
+        edge("without a CHANGE: no HABITS", "program a + b; mend 1 0; take 0 = 3; habit 14 0 = 0; habit 14 1 = 0; "
+            + "habit 2 0 = 0; count 2 = 0");
         edge("two gained of one TOKEN", "test 7 0 0 0 14; program +; mend 2 0; mending 0 is a + a; "
             + "take 0 = 3; habit 14 0 = 2; habit 2 0 = 0; habit 2 1 = 0");
         edge("two lost of one TOKEN", "program ) ) a < b; mend 1 -1; take 0 = 3; habit 1 1 = 2; habit 1 0 = 0; habit 14 1 = 0");
-        edge("one gained, one lost", "program a; mend 1 1; mending 0 is true; take 0 = 1; habit 12 0 = 1; habit 14 1 = 1; habit 12 1 = 0; habit 14 0 = 0");
+        edge("one gained, one lost", "program a; mend 1 1; mending 0 is true; take 0 = 1; habit 12 0 = 1; habit 14 1 = 1; "
+            + "habit 12 1 = 0; habit 14 0 = 0");
         edge("moved, neither gained nor lost", "program + a b; test 30 70 1 1 100; mend 2 0 = 3; changes = 2; "
             + "mending 0 is a + b; take 0 = 3; habit 2 0 = 0; habit 2 1 = 0; habit 14 0 = 0; habit 15 1 = 0");
-        edge("than the PROGRAM had as they were made", two + "program b b b; take 0 = 1; holds a; habit 1 1 = 1; habit 15 1 = 0; habit 14 0 = 0");
+        edge("than the PROGRAM had as they were made", two + "program b b b; take 0 = 1; holds a; habit 1 1 = 1; "
+            + "habit 15 1 = 0; habit 14 0 = 0");
         edge("than a PROGRAM had that was empty then", "mend 1 0; program a; take 0 = 1; habit 14 0 = 1");
         edge("than it had, each time counted anew", "program ( a; mend 0 0; program 9 9; mend 0 0; program ( a; mend 0 0 = 3; take 2 = 3; "
             + "habit 1 0 = 1; habit 0 1 = 0; habit 0 0 = 0; habit 27 1 = 0; habit 14 1 = 0");
-        edge("HABITS add up", two + "take 0; " + two + "mending 0 is a; take 0; habit 1 1 = 2; " + two + "take 1; habit 1 1 = 2; habit 0 0 = 1");
+        edge("HABITS add up", two + "take 0; " + two + "mending 0 is a; take 0; habit 1 1 = 2; " + two + "take 1; "
+            + "habit 1 1 = 2; habit 0 0 = 1");
     }
 
     // ---- promise 19 to 21 ----
@@ -1055,7 +1103,8 @@ public final class MeantTextsEdges {
 
     private static void forget() {
         edge("without HABITS", "forget = 0; forget = 0; status = 0");
-        StringBuilder none = new StringBuilder("program a ); mend 0 0; take 1; program 9; mend 1 1; take 0; habit 0 0 = 1; habit 27 1 = 1; habit 12 0 = 1; forget = 0");
+        StringBuilder none = new StringBuilder("program a ); mend 0 0; take 1; program 9; mend 1 1; take 0; habit 0 0 = 1; "
+            + "habit 27 1 = 1; habit 12 0 = 1; forget = 0");
         for (int t = 0; t < 28; t++) {
             none.append("; habit ").append(t).append(" 0 = 0; habit ").append(t).append(" 1 = 0");
         }
@@ -1095,14 +1144,16 @@ public final class MeantTextsEdges {
         edge("mend, none", NOT_BY_TWO + missing + "mend 0 0 = -6; status = -6");
         edge("mend, some", missing + "mend 0 0 = 16; status = 0");
         edge("take, no such one", refused + "take 0 = -2; status = -2");
-        edge("take, too long", "program ( ( a + b + c + d ); mend 0 -1; " + refused.replace("put 28", "put 99") + "take 6 = -5; status = -5");
+        edge("take, too long", "program ( ( a + b + c + d ); mend 0 -1; "
+            + "" + refused.replace("put 28", "put 99") + "take 6 = -5; status = -5");
         edge("take, one that is", "mend 0 0; " + missing + "take 0 = 1; status = 0");
         String[] others = {
             "clear", "token 99", "token -1", "fault", "fits", "value 0 0 0 0", "keeps", "changes", "mending 0 0", "mending 99 0",
             "rank 0", "rank 99", "apart 0 0", "apart 0 99", "apart 0 1", "habit 0 0", "habit 99 0", "forget", "count 0", "count 99", "status",
         };
         for (String other : others) {
-            edge(other + " leaves it", "program a +; mend 0 0 = 17; " + other + "; status = 0; drop 9; " + other + "; status = -2; put 28; " + other + "; status = -1");
+            edge(other + " leaves it", "program a +; mend 0 0 = 17; " + other + "; status = 0; drop 9; " + other + "; "
+                + "status = -2; put 28; " + other + "; status = -1");
         }
     }
 
